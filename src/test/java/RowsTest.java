@@ -3,6 +3,7 @@ public final class RowsTest {
     public static void main(String[] args) {
         area();
         areaRefuses();
+        longestTrail();
         in();
         upgrade();
         upgradeRefuses();
@@ -81,6 +82,22 @@ public final class RowsTest {
             area 0 3 0 = state
             in 2 3 = 1
             count 2 = 3
+            """);
+    }
+
+    private static void longestTrail() {
+        Calls calls = Calls.on("promises 7 and 10: a trail through all 40 kinds").run("40 * kind -1");
+        for (int kind = 0; kind < 39; kind++) {
+            calls.run("area " + kind + " 0 " + (kind + 1) + " = ok");
+        }
+        calls.run("""
+            count 2 = 39
+            in 0 0 = 39
+            area 39 0 0 = state
+            area 39 0 38 = state
+            area 39 1 0 = ok
+            open 0 0 0 = 0
+            incident 0 0 = 39
             """);
     }
 
