@@ -1,5 +1,7 @@
 import java.lang.reflect.InvocationTargetException;
 import java.lang.reflect.Method;
+import java.util.HashMap;
+import java.util.Map;
 
 /**
  * Calls on one new IncidentKinds, told as lines of text: a method, its arguments, '=' and what is due:
@@ -9,6 +11,7 @@ import java.lang.reflect.Method;
 final class Calls {
     /** What an object answers after so many calls is free, so a test that makes more would test nothing. */
     private static final int MOST_CALLS = 512;
+    private static final Map<String, Method> FACE = new HashMap<>();
     private static int wrong;
 
     private final String title;
@@ -53,7 +56,13 @@ final class Calls {
         }
     }
 
-    private String answer(String call) {
+    /** How many calls more the object may be asked. */
+    int left() {
+        return MOST_CALLS - made;
+    }
+
+    /** One call, told as a line without what is due: its answer. */
+    String answer(String call) {
         String[] words = call.split("\\s+");
         int[] arguments = new int[words.length - 1];
         for (int i = 0; i < arguments.length; i++) {
@@ -94,12 +103,15 @@ final class Calls {
     }
 
     private static Method method(String name) {
-        for (Method method : IncidentKinds.class.getMethods()) {
-            if (method.getName().equals(name)) {
-                return method;
+        if (FACE.isEmpty()) {
+            for (Method method : IncidentKinds.class.getMethods()) {
+                FACE.put(method.getName(), method);
             }
         }
-        throw new IllegalArgumentException("no method " + name);
+        if (!FACE.containsKey(name)) {
+            throw new IllegalArgumentException("no method " + name);
+        }
+        return FACE.get(name);
     }
 
     /** The very class counts: an ArrayIndexOutOfBoundsException is the machine's, not a refusal. */
@@ -119,7 +131,7 @@ final class Calls {
         return thrown.getClass().getName();
     }
 
-    private static boolean isRefusal(String answer) {
+    static boolean isRefusal(String answer) {
         return !answer.equals("ok") && !answer.matches("-?\\d+");
     }
 
